@@ -9,6 +9,7 @@ public final class TicksTest {
     timesAtTheirMost();
     nowTells();
     refusals();
+    theLastTick();
     Due.end();
   }
 
@@ -164,6 +165,34 @@ public final class TicksTest {
     }
     for (int what : new int[] {7, -1, Integer.MAX_VALUE, Integer.MIN_VALUE}) {
       Due.refused("now(" + what + ")", Due.BEYOND, TicksTest::some, x -> x.now(what));
+    }
+  }
+
+  /**
+   * No object comes so far in the 512 calls that the document speaks of, so nothing else could show
+   * STATE; the class keeps its word behind them, too.
+   */
+  private static void theLastTick() {
+    TwinLights x = Due.told("ship at 5 port;pattern 8");
+    for (int i = 0; i < 1666; i++) {
+      x.go(60);
+    }
+    Due.is("now(0)", x.now(0), 99960);
+    Due.is("go(40)", x.go(40), Due.STATE);
+    Due.is("go(61)", x.go(61), Due.BEYOND);
+    Due.is("go(19)", x.go(19), 0);
+    Due.is("nights(20)", x.nights(20), 0);
+    Due.is("now(0)", x.now(0), 99999);
+    int z = x.count(6);
+    Due.is("go(1)", x.go(1), Due.STATE);
+    Due.is("nights(1)", x.nights(1), Due.STATE);
+    Due.is("nights(21)", x.nights(21), Due.BEYOND);
+    Due.is("status(4)", x.status(4), 3);
+    Due.is("count(6)", x.count(6), z);
+    Due.is("now(0)", x.now(0), 99999);
+    x.set(0, 8);
+    for (int n = 0; n <= 13; n++) {
+      Due.is("shows(0, " + n + ") on the last tick", x.shows(0, n), 1);
     }
   }
 
