@@ -98,7 +98,7 @@ public final class SeenTest {
     Due.sheet(x, 1, 1, 0, 0, 1, 0, 0, 0, 0, 0, 0, 0, 1);
     Due.is("fits of all bits", x.fits(1), 1);
     Due.is("pattern of all bits", x.pattern(1), 0b100000001001);
-    Due.sheet(x, 1, 3);
+    Due.sheet(x, 1, 2);
     Due.is("fits of what no light shows", x.fits(1), 0);
     Due.is("pattern of what no light shows", x.pattern(1), Due.NONE);
     Due.sheet(x, 1);

@@ -25,6 +25,8 @@ public final class ShineTest {
     Due.is("lagFor(0)", x.lagFor(0), 0);
     // Bit 5 is seen on this tick with LAG 6.
     Due.is("lagFor(1)", x.lagFor(1), 6);
+    x.set(3, 1 << 22);
+    Due.is("lagFor(1), the greatest", x.lagFor(1), 23);
     x.set(2, 0);
     Due.is("lagFor(1) with a closed book", x.lagFor(1), 0);
     TwinLights y = Due.told("pattern 0;ship at 22;ship at 22 port");
@@ -140,6 +142,8 @@ public final class ShineTest {
     Due.is("start(0, 3)", x.start(0, 3), 7);
     // From every cell it strands once in 12, from 0 and 1 it does so at once.
     Due.is("start(0, 12)", x.start(0, 12), startByTrying(12));
+    x.change(0, 3, 1);
+    Due.is("start(0, 22), the farthest", x.start(0, 22), 23);
     x.change(0, 4, 1);
     Due.is("start(0, 60) in port", x.start(0, 60), 0);
   }

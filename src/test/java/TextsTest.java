@@ -106,6 +106,17 @@ public final class TextsTest {
     fault("boat", 0);
     fault("ships", 0);
     fault("shi", 0);
+    fault("shipz", 0);
+    fault("zship", 0);
+    fault("shipa", 0);
+    fault("whip", 0);
+    fault("rug", 0);
+    fault("miner", 0);
+    fault("tag 3", 0);
+    fault("look 1", 0);
+    fault("ship it 3", 5);
+    fault("ship sack", 5);
+    fault("ship fort", 5);
     fault("Ship", 0);
     fault("sHip", 0);
     fault("s", 0);

@@ -173,10 +173,11 @@ public final class TicksTest {
    * STATE; the class keeps its word behind them, too.
    */
   private static void theLastTick() {
-    TwinLights x = Due.told("ship at 5 port;pattern 8");
-    for (int i = 0; i < 1666; i++) {
-      x.go(60);
-    }
+    TwinLights y = farOn();
+    Due.is("go(39)", y.go(39), 0);
+    Due.is("now(0)", y.now(0), 99999);
+    Due.is("go(1)", y.go(1), Due.STATE);
+    TwinLights x = farOn();
     Due.is("now(0)", x.now(0), 99960);
     Due.is("go(40)", x.go(40), Due.STATE);
     Due.is("go(61)", x.go(61), Due.BEYOND);
@@ -194,6 +195,14 @@ public final class TicksTest {
     for (int n = 0; n <= 13; n++) {
       Due.is("shows(0, " + n + ") on the last tick", x.shows(0, n), 1);
     }
+  }
+
+  private static TwinLights farOn() {
+    TwinLights x = Due.told("ship at 5 port;pattern 8");
+    for (int i = 0; i < 1666; i++) {
+      x.go(60);
+    }
+    return x;
   }
 
   private static TwinLights some() {
