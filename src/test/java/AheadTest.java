@@ -8,8 +8,6 @@ public final class AheadTest {
     whenByHand();
     meetByHand();
     periods();
-    nothingChanges();
-    refusals();
     Due.end();
   }
 
@@ -159,55 +157,5 @@ public final class AheadTest {
       x.set(0, row[0]);
       Due.is("period() of " + row[0], x.period(), row[1]);
     }
-  }
-
-  private static void nothingChanges() {
-    TwinLights x = seven();
-    x.go(3);
-    String before = Due.all(x);
-    x.ahead(3, 1, 100);
-    x.shows(1, 100);
-    x.strands(2);
-    x.when(1, 22);
-    x.meet(0, 6);
-    x.period();
-    Due.same("looking ahead", Due.all(x), before);
-  }
-
-  private static void refusals() {
-    int low = Integer.MIN_VALUE;
-    int high = Integer.MAX_VALUE;
-    int[][] aheads = {
-      {-1, 1, 0}, {7, 1, 0}, {low, 1, 0}, {high, 1, 0}, {0, 0, 0}, {0, 3, 0}, {0, 4, 0}, {0, 7, 0},
-      {0, 8, 0}, {0, -1, 0}, {0, low, 0}, {0, high, 0}, {0, 1, -1}, {0, 1, 101}, {0, 1, low},
-      {0, 1, high},
-    };
-    for (int[] w : aheads) {
-      Due.refused("ahead(" + w[0] + ", " + w[1] + ", " + w[2] + ")", Due.BEYOND, AheadTest::seven,
-          x -> x.ahead(w[0], w[1], w[2]));
-    }
-    int[][] pairs = {{-1, 0}, {2, 0}, {0, -1}, {0, 101}, {low, 0}, {high, 0}, {1, low}, {1, high}};
-    for (int[] w : pairs) {
-      Due.refused("shows(" + w[0] + ", " + w[1] + ")", Due.BEYOND, AheadTest::seven,
-          x -> x.shows(w[0], w[1]));
-    }
-    int[][] whens = {{-1, 0}, {7, 0}, {0, -1}, {0, 24}, {low, 0}, {high, 0}, {1, low}, {1, high}};
-    for (int[] w : whens) {
-      Due.refused("when(" + w[0] + ", " + w[1] + ")", Due.BEYOND, AheadTest::seven,
-          x -> x.when(w[0], w[1]));
-    }
-    int[][] meets = {{-1, 0}, {7, 0}, {0, -1}, {0, 7}, {2, 2}, {0, 0}, {low, 0}, {0, high}, {9, 9}};
-    for (int[] w : meets) {
-      Due.refused("meet(" + w[0] + ", " + w[1] + ")", Due.BEYOND, AheadTest::seven,
-          x -> x.meet(w[0], w[1]));
-    }
-    for (int ship : new int[] {-1, 7, low, high}) {
-      Due.refused("strands(" + ship + ")", Due.BEYOND, AheadTest::seven, x -> x.strands(ship));
-    }
-    Due.refused("strands of one in port", Due.NONE, () -> Due.told("ship port"),
-        x -> x.strands(0));
-    Due.refused("when of one in port", Due.NONE, () -> Due.told("ship port"), x -> x.when(0, 3));
-    Due.refused("meet of two in port", Due.NONE, () -> Due.told("ship port;ship at 3 port"),
-        x -> x.meet(0, 1));
   }
 }

@@ -10,17 +10,31 @@ final class Due {
   static final int STATE = -1000005;
   static final int MISSING = -1000006;
   static final int SIZE = -1000007;
+  static final int LEAST_INT = Integer.MIN_VALUE;
+  static final int GREATEST_INT = Integer.MAX_VALUE;
+
+  /** A call of which one argument is looked at. */
+  interface Call {
+    long of(TwinLights x, int v);
+  }
+
+  /** Stands before each row that is told: the sentence that is being tested, or nothing. */
+  static String under = "";
 
   private static int asked = 0;
   private static int wrong = 0;
 
   private Due() {}
 
+  static int asked() {
+    return asked;
+  }
+
   static void is(String call, long got, long want) {
     asked++;
     if (got != want) {
       wrong++;
-      System.out.println(call + " answered " + got + ", due is " + want);
+      System.out.println(under + call + " answered " + got + ", due is " + want);
     }
   }
 
@@ -28,7 +42,7 @@ final class Due {
     asked++;
     if (!got.equals(want)) {
       wrong++;
-      System.out.println(call + " left " + got + ", due is " + want);
+      System.out.println(under + call + " left " + got + ", due is " + want);
     }
   }
 
@@ -36,7 +50,6 @@ final class Due {
   static void refused(String call, int finding, Supplier<TwinLights> made,
       ToLongFunction<TwinLights> act) {
     TwinLights x = made.get();
-    String before = all(x);
     int[] counted = statuses(x);
     is(call, act.applyAsLong(x), finding);
     counted[0]++;
@@ -45,7 +58,30 @@ final class Due {
     for (int i = 0; i < then.length; i++) {
       is("status(" + (i - 1) + ") behind " + call, then[i], counted[i]);
     }
-    same(call, all(x), before);
+    same(call, Spent.learned(x), Spent.learned(made.get()));
+  }
+
+  /** None of these is taken: each is BEYOND, and changes nothing. */
+  static void beyond(String call, Supplier<TwinLights> made, Call act, int... values) {
+    for (int v : values) {
+      refused(call + " of " + v, BEYOND, made, x -> act.of(x, v));
+    }
+  }
+
+  /** Each of these is taken: none is BEYOND. */
+  static void taken(String call, Supplier<TwinLights> made, Call act, int... values) {
+    for (int v : values) {
+      TwinLights x = made.get();
+      int before = x.status(0);
+      act.of(x, v);
+      is("status(0) behind " + call + " of " + v, x.status(0), before);
+    }
+  }
+
+  /** The least and the greatest are taken, the next ones outside and the farthest ints are not. */
+  static void range(String call, int least, int most, Supplier<TwinLights> made, Call act) {
+    taken(call, made, act, least, most);
+    beyond(call, made, act, least - 1, most + 1, LEAST_INT, GREATEST_INT);
   }
 
   private static int[] statuses(TwinLights x) {
@@ -81,8 +117,21 @@ final class Due {
         cell + " " + way + " " + stranded + " " + saw);
   }
 
+  /** What each of the ships answers to of(.., what). */
+  static void each(String behind, TwinLights x, int what, int... due) {
+    for (int i = 0; i < due.length; i++) {
+      is("of(" + i + ", " + what + ") behind " + behind, x.of(i, what), due[i]);
+    }
+  }
+
+  /** Bytes come four at a time, as far as they go: an object has calls for little else besides. */
   static void feed(TwinLights x, String text) {
-    for (int i = 0; i < text.length(); i++) {
+    int i = 0;
+    for (; i + 4 <= text.length(); i += 4) {
+      x.feed(text.charAt(i) << 24 | text.charAt(i + 1) << 16 | text.charAt(i + 2) << 8
+          | text.charAt(i + 3), 4);
+    }
+    for (; i < text.length(); i++) {
       x.feed(text.charAt(i), 1);
     }
   }
@@ -101,9 +150,18 @@ final class Due {
     return x;
   }
 
+  /** Eight ships, one of each kind and another SHIP, at different cells. */
+  static TwinLights eight() {
+    return told("ship at1;tug at4;liner at7;yacht at10;racer at13;ghost at16;pilot at19;ship at22");
+  }
+
   /** A sheet of 8 bits with these numbers. */
   static void sheet(TwinLights x, int s, int... numbers) {
-    x.sheet(s, 8, numbers.length);
+    sheet(x, s, 8, numbers);
+  }
+
+  static void sheet(TwinLights x, int s, int bits, int[] numbers) {
+    x.sheet(s, bits, numbers.length);
     for (int i = 0; i < numbers.length; i++) {
       x.write(s, i, numbers[i]);
     }

@@ -1,4 +1,4 @@
-/** Promises 39 to 43: image, undo, tear, count, status. */
+/** Promises 39 to 42: image, undo, tear, count. */
 public final class ImagesTest {
   public static void main(String[] args) {
     undoing();
@@ -7,8 +7,6 @@ public final class ImagesTest {
     tearing();
     imagesOfFewerShips();
     counting();
-    statuses();
-    refusals();
     Due.end();
   }
 
@@ -163,50 +161,5 @@ public final class ImagesTest {
     x.go(3);
     Due.is("count(0)", x.count(0), 3);
     Due.is("count(4)", x.count(4), 0b1001101101);
-  }
-
-  private static void statuses() {
-    TwinLights x = Due.told("pattern 0;ship;ship;ship;ship;ship;ship;ship;tug");
-    x.hold(0, 0);
-    for (int i = 0; i < 7; i++) {
-      x.sheet(0, 8, -1);
-    }
-    for (int i = 0; i < 6; i++) {
-      x.judge(1);
-    }
-    for (int i = 0; i < 3; i++) {
-      x.as(0, 1);
-    }
-    for (int i = 0; i < 4; i++) {
-      x.undo();
-    }
-    x.ship(0, 0);
-    x.ship(0, 0);
-    x.odds(18, 0);
-    int[] due = {1, 2, 3, 4, 0, 6, 7};
-    for (int which = 0; which <= 6; which++) {
-      Due.is("status(" + which + ")", x.status(which), due[which]);
-    }
-    Due.is("status(-1)", x.status(-1), 23);
-    Due.is("status(7)", x.status(7), Due.BEYOND);
-    Due.is("status(0)", x.status(0), 2);
-    Due.is("status(-2)", x.status(-2), Due.BEYOND);
-    Due.is("status(0)", x.status(0), 3);
-    Due.is("status(-1)", x.status(-1), 25);
-    x.image();
-    x.of(8, 0);
-    x.undo();
-    x.tear();
-    Due.is("status(-1): none is taken back", x.status(-1), 26);
-  }
-
-  private static void refusals() {
-    for (int what : new int[] {-1, 8, Integer.MIN_VALUE, Integer.MAX_VALUE}) {
-      Due.refused("count(" + what + ")", Due.BEYOND, ImagesTest::some, x -> x.count(what));
-    }
-    for (int which : new int[] {-2, 7, Integer.MIN_VALUE, Integer.MAX_VALUE}) {
-      Due.refused("status(" + which + ")", Due.BEYOND, ImagesTest::some, x -> x.status(which));
-    }
-    Due.refused("undo()", Due.NONE, ImagesTest::some, TwinLights::undo);
   }
 }

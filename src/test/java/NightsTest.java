@@ -1,12 +1,9 @@
-/** Promises 26 to 28: nights, odds, seed. */
+/** Promises 26 and 27: nights, odds. */
 public final class NightsTest {
   public static void main(String[] args) {
     nightsByHand();
     nightsAtOnce();
-    speedAtItsMost();
     oddsByHand();
-    seeds();
-    refusals();
     Due.end();
   }
 
@@ -53,17 +50,6 @@ public final class NightsTest {
     return Due.told("ship;tug;liner at 3;yacht at 20;racer;ghost at 2;pilot at 17;ship port");
   }
 
-  private static void speedAtItsMost() {
-    TwinLights x = Due.told("ship port");
-    x.change(0, 3, 4);
-    x.nights(1);
-    Due.is("of(0, 3)", x.of(0, 3), 5);
-    x.seed(1);
-    x.nights(1);
-    Due.is("of(0, 3) at its most", x.of(0, 3), 5);
-    Due.ship("a night in port", x, 0, 11, 1, 0, 0);
-  }
-
   private static void oddsByHand() {
     TwinLights x = new TwinLights();
     Due.is("odds(0, 0)", x.odds(0, 0), 1);
@@ -90,35 +76,5 @@ public final class NightsTest {
     Due.is("odds(3, 0)", x.odds(3, 0), 1);
     Due.is("odds(3, 1)", x.odds(3, 1), 27);
     Due.is("count(6), which odds() leaves", x.count(6), 1);
-  }
-
-  private static void seeds() {
-    TwinLights x = new TwinLights();
-    Due.is("seed(7)", x.seed(7), 1);
-    Due.is("count(6)", x.count(6), 7);
-    for (int v : new int[] {-1000001, -1000007, Integer.MIN_VALUE, Integer.MAX_VALUE, 0}) {
-      x.seed(v);
-      Due.is("count(6)", x.count(6), v);
-      Due.is("seed(0)", x.seed(0), v);
-    }
-    Due.is("status(-1): z is no finding", x.status(-1), 0);
-    // From -77 the draws are 1, 8 by 12 and 1, 4 by 8.
-    x.seed(-77);
-    x.nights(1);
-    Due.is("light(0)", x.light(0), 7);
-    Due.is("count(6)", x.count(6), 1223927017);
-  }
-
-  private static void refusals() {
-    int low = Integer.MIN_VALUE;
-    int high = Integer.MAX_VALUE;
-    for (int n : new int[] {0, -1, 21, low, high}) {
-      Due.refused("nights(" + n + ")", Due.BEYOND, () -> Due.told("ship"), x -> x.nights(n));
-    }
-    int[][] odds = {{-1, 0}, {18, 0}, {0, -1}, {0, 2}, {low, 0}, {high, 0}, {0, low}, {0, high}};
-    for (int[] w : odds) {
-      Due.refused("odds(" + w[0] + ", " + w[1] + ")", Due.BEYOND, TwinLights::new,
-          x -> x.odds(w[0], w[1]));
-    }
   }
 }

@@ -13,7 +13,6 @@ public final class SeenTest {
     kindsBySailing();
     sheetsOfAllWidths();
     nothingChanges();
-    refusals();
     Due.end();
   }
 
@@ -225,39 +224,18 @@ public final class SeenTest {
   }
 
   private static void nothingChanges() {
-    TwinLights x = Due.told("pattern 0;lag 3;ship at 4;ghost at 9");
-    Due.sheet(x, 0, 4, 5);
-    Due.sheet(x, 1, -1, 0);
-    String before = Due.all(x);
+    TwinLights x = withSheets();
     x.lags(1);
     x.fits(1);
     x.pattern(1);
     x.kinds(0, 0);
-    Due.same("guessing", Due.all(x), before);
-    Due.is("judge(1)", x.judge(1), 1);
+    Due.same("guessing", Spent.learned(x), Spent.learned(withSheets()));
   }
 
-  private static TwinLights some() {
-    TwinLights x = Due.told("ship at 4;ghost at 9");
-    Due.sheet(x, 1, 4, 5);
+  private static TwinLights withSheets() {
+    TwinLights x = Due.told("pattern 0;lag 3;ship at 4;ghost at 9");
+    Due.sheet(x, 0, 4, 5);
+    Due.sheet(x, 1, -1, 0);
     return x;
-  }
-
-  private static void refusals() {
-    for (int s : new int[] {-1, 4, Integer.MIN_VALUE, Integer.MAX_VALUE}) {
-      Due.refused("lags(" + s + ")", Due.BEYOND, SeenTest::some, x -> x.lags(s));
-      Due.refused("fits(" + s + ")", Due.BEYOND, SeenTest::some, x -> x.fits(s));
-      Due.refused("pattern(" + s + ")", Due.BEYOND, SeenTest::some, x -> x.pattern(s));
-      Due.refused("kinds(" + s + ", 0)", Due.BEYOND, SeenTest::some, x -> x.kinds(s, 0));
-      Due.refused("kinds(1, " + s + ")", Due.BEYOND, SeenTest::some, x -> x.kinds(1, s));
-      // A missing sheet is found before the ship that there isn't.
-      Due.refused("kinds(0, " + s + ")", Due.MISSING, SeenTest::some, x -> x.kinds(0, s));
-    }
-    Due.refused("kinds(1, 2)", Due.BEYOND, SeenTest::some, x -> x.kinds(1, 2));
-    Due.refused("lags(0)", Due.MISSING, SeenTest::some, x -> x.lags(0));
-    Due.refused("fits(2)", Due.MISSING, SeenTest::some, x -> x.fits(2));
-    Due.refused("pattern(3)", Due.MISSING, SeenTest::some, x -> x.pattern(3));
-    Due.refused("kinds(3, 0)", Due.MISSING, SeenTest::some, x -> x.kinds(3, 0));
-    Due.refused("pattern(1), which has cells", Due.NONE, SeenTest::some, x -> x.pattern(1));
   }
 }

@@ -9,10 +9,6 @@ public final class SheetsTest {
     copied();
     loaded();
     judged();
-    sheetRefusals();
-    writeRefusals();
-    copyRefusals();
-    readingRefusals();
     Due.end();
   }
 
@@ -183,81 +179,5 @@ public final class SheetsTest {
     TwinLights x = new TwinLights();
     Due.sheet(x, 0, 0);
     return x;
-  }
-
-  private static TwinLights some() {
-    TwinLights x = Due.told("ship at 4;ship at 9");
-    Due.sheet(x, 0, 4, 9);
-    x.sheet(1, 16, 3);
-    x.sheet(3, 16, 5);
-    return x;
-  }
-
-  private static void sheetRefusals() {
-    int[][] beyond = {
-      {-1, 8, 3}, {4, 8, 3}, {LOW, 8, 3}, {HIGH, 8, 3}, {0, 1, 3}, {0, -8, 3}, {0, 64, 3},
-      {0, 24, 3}, {0, LOW, 3}, {0, HIGH, 3}, {4, 8, -1}, {0, 7, -1}, {0, 8, 41}, {0, 32, HIGH},
-      {0, 0, 41}, {2, 0, 41}, {4, 0, 0},
-    };
-    for (int[] w : beyond) {
-      Due.refused("sheet(" + w[0] + ", " + w[1] + ", " + w[2] + ")", Due.BEYOND, SheetsTest::some,
-          x -> x.sheet(w[0], w[1], w[2]));
-    }
-    int[][] size = {{0, 8, -1}, {0, 16, LOW}, {0, 0, -1}, {2, 0, -1}, {2, 32, -41}};
-    for (int[] w : size) {
-      Due.refused("sheet(" + w[0] + ", " + w[1] + ", " + w[2] + ")", Due.SIZE, SheetsTest::some,
-          x -> x.sheet(w[0], w[1], w[2]));
-    }
-    TwinLights y = some();
-    y.sheet(0, 8, -1);
-    y.sheet(0, 0, 41);
-    y.sheet(0, 3, 1);
-    Due.is("judge(0) behind what was refused", y.judge(0), 0);
-  }
-
-  private static void writeRefusals() {
-    int[][] beyond = {{-1, 0}, {4, 0}, {LOW, 0}, {HIGH, 0}, {0, 2}, {0, -1}, {0, LOW}, {0, HIGH}};
-    for (int[] w : beyond) {
-      Due.refused("write(" + w[0] + ", " + w[1] + ", 1)", Due.BEYOND, SheetsTest::some,
-          x -> x.write(w[0], w[1], 1));
-    }
-    Due.refused("write(2, 0, 1)", Due.MISSING, SheetsTest::some, x -> x.write(2, 0, 1));
-    Due.refused("write(2, -1, 1)", Due.MISSING, SheetsTest::some, x -> x.write(2, -1, 1));
-  }
-
-  private static void copyRefusals() {
-    int[][] beyond = {
-      {-1, 0, 0, 0, 1}, {0, 0, 4, 0, 1}, {4, 0, 0, 0, 1}, {0, 0, -1, 0, 1}, {4, 0, 2, 0, 1},
-      {2, 0, 4, 0, 1}, {LOW, 0, HIGH, 0, 0},
-      {1, 0, 3, 0, 4}, {3, 0, 1, 0, 4}, {3, 3, 1, 0, 3}, {1, 1, 3, 3, 3}, {1, 4, 3, 0, 0},
-      {1, 0, 3, 6, 0}, {1, -1, 3, 0, 1}, {1, 0, 3, -1, 1}, {1, 0, 3, 0, -1}, {1, LOW, 3, 0, 1},
-      {1, HIGH, 3, 0, 1}, {1, 0, 3, HIGH, 1}, {1, 1, 3, 0, HIGH}, {1, HIGH, 3, HIGH, HIGH},
-      {1, 0, 3, 0, LOW}, {1, 1, 1, 1, 3},
-    };
-    for (int[] w : beyond) {
-      copyRefused(Due.BEYOND, w);
-    }
-    int[][] missing = {{2, 0, 0, 0, 1}, {0, 0, 2, 0, 1}, {2, 0, 2, 0, 0}, {2, -1, 0, 0, 99}};
-    for (int[] w : missing) {
-      copyRefused(Due.MISSING, w);
-    }
-    int[][] kind = {{0, 0, 1, 0, 1}, {1, 0, 0, 0, 1}, {0, 0, 1, 0, 0}, {0, -1, 3, 0, 99}};
-    for (int[] w : kind) {
-      copyRefused(Due.KIND, w);
-    }
-  }
-
-  private static void copyRefused(int finding, int[] w) {
-    Due.refused("copy(" + w[0] + ", " + w[1] + ", " + w[2] + ", " + w[3] + ", " + w[4] + ")",
-        finding, SheetsTest::some, x -> x.copy(w[0], w[1], w[2], w[3], w[4]));
-  }
-
-  private static void readingRefusals() {
-    for (int s : new int[] {-1, 4, LOW, HIGH}) {
-      Due.refused("load(" + s + ")", Due.BEYOND, SheetsTest::some, x -> x.load(s));
-      Due.refused("judge(" + s + ")", Due.BEYOND, SheetsTest::some, x -> x.judge(s));
-    }
-    Due.refused("load(2)", Due.MISSING, SheetsTest::some, x -> x.load(2));
-    Due.refused("judge(2)", Due.MISSING, SheetsTest::some, x -> x.judge(2));
   }
 }

@@ -14,7 +14,6 @@ public final class ShineTest {
     keepInByHand();
     shipsByTrying();
     nothingChanges();
-    refusals();
     Due.end();
   }
 
@@ -259,48 +258,14 @@ public final class ShineTest {
   private static void nothingChanges() {
     TwinLights x = later();
     x.hold(2, 3);
-    String before = Due.all(x);
     x.lagFor(60);
     x.patternFor(12);
     x.kindFor(2, 60);
     x.start(3, 60);
     x.speedFor(4, 60);
     x.keepIn(9999, 20);
-    Due.same("asking how to shine", Due.all(x), before);
-    Due.is("as(2, 3)", x.as(2, 3), 3);
-  }
-
-  private static void refusals() {
-    int low = Integer.MIN_VALUE;
-    int high = Integer.MAX_VALUE;
-    for (int n : new int[] {-1, 61, low, high}) {
-      Due.refused("lagFor(" + n + ")", Due.BEYOND, ShineTest::later, x -> x.lagFor(n));
-    }
-    for (int n : new int[] {-1, 13, low, high}) {
-      Due.refused("patternFor(" + n + ")", Due.BEYOND, ShineTest::later, x -> x.patternFor(n));
-    }
-    int[][] pairs = {{-1, 0}, {7, 0}, {0, -1}, {0, 61}, {low, 0}, {high, 0}, {0, low}, {0, high}};
-    for (int[] w : pairs) {
-      String rest = "(" + w[0] + ", " + w[1] + ")";
-      Due.refused("kindFor" + rest, Due.BEYOND, ShineTest::later, x -> x.kindFor(w[0], w[1]));
-      Due.refused("start" + rest, Due.BEYOND, ShineTest::later, x -> x.start(w[0], w[1]));
-      Due.refused("speedFor" + rest, Due.BEYOND, ShineTest::later, x -> x.speedFor(w[0], w[1]));
-    }
-    int[][] keeps = {{-1, 0}, {10000, 0}, {0, -1}, {0, 21}, {low, 0}, {high, 0}, {0, low},
-        {0, high}};
-    for (int[] w : keeps) {
-      Due.refused("keepIn(" + w[0] + ", " + w[1] + ")", Due.BEYOND, ShineTest::later,
-          x -> x.keepIn(w[0], w[1]));
-    }
-    Due.refused("speedFor of a liner at the end", Due.NONE,
-        () -> Due.told("pattern 0;liner at 22"), x -> x.speedFor(0, 1));
-    Due.refused("keepIn of none that help", Due.NONE, ShineTest::strandedAlready,
-        x -> x.keepIn(0, 20));
-  }
-
-  private static TwinLights strandedAlready() {
-    TwinLights x = Due.told("ship port");
-    x.change(0, 5, 1);
-    return x;
+    TwinLights same = later();
+    same.hold(2, 3);
+    Due.same("asking how to shine", Spent.learned(x), Spent.learned(same));
   }
 }

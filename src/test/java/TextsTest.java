@@ -1,14 +1,12 @@
-/** Promises 29 to 31: feed, wipe, text. */
+/** Promises 29 and 31: feed, text. */
 public final class TextsTest {
   public static void main(String[] args) {
     feeding();
-    wiping();
     textsThatStand();
     laterItemsCount();
     faults();
     faultOfTheNinth();
     nothingChangesWithAFault();
-    refusals();
     Due.end();
   }
 
@@ -25,21 +23,6 @@ public final class TextsTest {
     Due.is("feed(.., 1)", x.feed(-256 | '9', 1), 4);
     Due.is("text() of lag9", x.text(), 1);
     Due.is("light(1)", x.light(1), 9);
-  }
-
-  private static void wiping() {
-    TwinLights x = new TwinLights();
-    Due.is("wipe()", x.wipe(), 0);
-    Due.feed(x, "lag 3");
-    Due.is("wipe()", x.wipe(), 5);
-    Due.is("wipe()", x.wipe(), 0);
-    Due.is("text() of nothing", x.text(), -1);
-    Due.is("light(1)", x.light(1), 4);
-    for (int i = 1; i <= 30; i++) {
-      Due.is("feed(.., 4)", x.feed(0x20202020, 4), 4 * i);
-    }
-    Due.is("wipe()", x.wipe(), 120);
-    Due.is("status(-1)", x.status(-1), 0);
   }
 
   private static void textsThatStand() {
@@ -219,29 +202,5 @@ public final class TextsTest {
     Due.is("of(1, 1)", x.of(1, 1), 5);
     Due.is("undo()", x.undo(), 5);
     Due.same("undo()", Due.all(x), before);
-  }
-
-  private static void refusals() {
-    for (int n : new int[] {0, -1, 5, Integer.MIN_VALUE, Integer.MAX_VALUE}) {
-      Due.refused("feed(0, " + n + ")", Due.BEYOND, TwinLights::new, x -> x.feed(0, n));
-      Due.refused("feed(0, " + n + ") to a full tape", Due.BEYOND, () -> fed(120),
-          x -> x.feed(0, n));
-    }
-    for (int n = 1; n <= 4; n++) {
-      int bytes = n;
-      Due.refused("feed(0, " + n + ") to a full tape", Due.FULL, () -> fed(120),
-          x -> x.feed(0, bytes));
-      Due.refused("feed(0, " + n + ") to a tape that is too full", Due.FULL,
-          () -> fed(121 - bytes), x -> x.feed(0, bytes));
-      Due.is("feed(0, " + n + ") to the brim", fed(120 - n).feed(0, n), 120);
-    }
-  }
-
-  private static TwinLights fed(int bytes) {
-    TwinLights x = new TwinLights();
-    for (int i = 0; i < bytes; i++) {
-      x.feed(' ', 1);
-    }
-    return x;
   }
 }

@@ -6,10 +6,7 @@ public final class TicksTest {
     shipThatStrands();
     kindsThatSail();
     inPort();
-    timesAtTheirMost();
     nowTells();
-    refusals();
-    theLastTick();
     Due.end();
   }
 
@@ -116,18 +113,6 @@ public final class TicksTest {
     Due.ship("out again", x, 0, 11, 0, 1, 0);
   }
 
-  private static void timesAtTheirMost() {
-    TwinLights x = Due.told("pattern 0;ship at 22;ghost at 5");
-    x.change(0, 5, 9998);
-    x.change(1, 6, 9998);
-    Due.is("go(1)", x.go(1), 9999);
-    Due.is("of(1, 6)", x.of(1, 6), 9999);
-    x.change(0, 1, 1);
-    Due.is("go(1)", x.go(1), 9999);
-    Due.ship("stranded at its most", x, 0, 11, 1, 9999, 0);
-    Due.is("of(1, 6)", x.of(1, 6), 9999);
-  }
-
   private static void nowTells() {
     TwinLights x = Due.told("ship at 5;tug at 3 port;ship at 4;ghost at 4;ship at 23 port");
     int[] due = {0, 0, 0, 0b10010, 0b110000, 2, 0};
@@ -157,55 +142,5 @@ public final class TicksTest {
     y.change(0, 4, 0);
     Due.is("now(5)", y.now(5), 0);
     Due.is("now(4)", y.now(4), 1 << 23 | 1);
-  }
-
-  private static void refusals() {
-    for (int n : new int[] {0, -1, 61, Integer.MAX_VALUE, Integer.MIN_VALUE}) {
-      Due.refused("go(" + n + ")", Due.BEYOND, TicksTest::some, x -> x.go(n));
-    }
-    for (int what : new int[] {7, -1, Integer.MAX_VALUE, Integer.MIN_VALUE}) {
-      Due.refused("now(" + what + ")", Due.BEYOND, TicksTest::some, x -> x.now(what));
-    }
-  }
-
-  /**
-   * No object comes so far in the 512 calls that the document speaks of, so nothing else could show
-   * STATE; the class keeps its word behind them, too.
-   */
-  private static void theLastTick() {
-    TwinLights y = farOn();
-    Due.is("go(39)", y.go(39), 0);
-    Due.is("now(0)", y.now(0), 99999);
-    Due.is("go(1)", y.go(1), Due.STATE);
-    TwinLights x = farOn();
-    Due.is("now(0)", x.now(0), 99960);
-    Due.is("go(40)", x.go(40), Due.STATE);
-    Due.is("go(61)", x.go(61), Due.BEYOND);
-    Due.is("go(19)", x.go(19), 0);
-    Due.is("nights(20)", x.nights(20), 0);
-    Due.is("now(0)", x.now(0), 99999);
-    int z = x.count(6);
-    Due.is("go(1)", x.go(1), Due.STATE);
-    Due.is("nights(1)", x.nights(1), Due.STATE);
-    Due.is("nights(21)", x.nights(21), Due.BEYOND);
-    Due.is("status(4)", x.status(4), 3);
-    Due.is("count(6)", x.count(6), z);
-    Due.is("now(0)", x.now(0), 99999);
-    x.set(0, 8);
-    for (int n = 0; n <= 13; n++) {
-      Due.is("shows(0, " + n + ") on the last tick", x.shows(0, n), 1);
-    }
-  }
-
-  private static TwinLights farOn() {
-    TwinLights x = Due.told("ship at 5 port;pattern 8");
-    for (int i = 0; i < 1666; i++) {
-      x.go(60);
-    }
-    return x;
-  }
-
-  private static TwinLights some() {
-    return Due.told("ship at 5;tug at 3 port");
   }
 }
