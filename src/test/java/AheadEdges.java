@@ -9,7 +9,8 @@ final class AheadEdges {
     Words.of(11, "What THE FIRST (which 0), THE SECOND (1) shows on the TICK behind n (0 to 100)"
         + " others.", AheadEdges::showsFrom0To100);
     Words.of(11, "BEYOND.", AheadEdges::showsBeyond);
-    Words.of(12, "Behind how many TICKS (1 to 200, the fewest) STRANDED of a SHIP is more than now.",
+    Words.of(12,
+        "Behind how many TICKS (1 to 200, the fewest) STRANDED of a SHIP is more than now.",
         AheadEdges::strandsFrom1To200);
     Words.of(12, "BEYOND.", () -> shipsOnly("strands", (x, v) -> x.strands(v)));
     Words.of(12, "NONE.", AheadEdges::strandsNever);
@@ -23,8 +24,10 @@ final class AheadEdges {
     Words.of(14, "BEYOND:", AheadEdges::meetBeyond);
     Words.of(14, "also one and the same.", AheadEdges::meetOneAndTheSame);
     Words.of(14, "NONE.", AheadEdges::meetNever);
-    Words.of(15, "The least number of TICKS (1 to 12) such that THE PATTERN turned round by it is the"
-        + " same.", AheadEdges::periodFrom1To12);
+    Words.of(15,
+        "The least number of TICKS (1 to 12) such that THE PATTERN turned round by it is the "
+            + "same.",
+        AheadEdges::periodFrom1To12);
     Words.of(Words.INTERFACE, "---- what will be (nothing changes).", AheadEdges::nothingChanges);
   }
 

@@ -250,7 +250,7 @@ final class SeenEdges {
   }
 
   private static void kindsFromNowOn() {
-    TwinLights x = Due.told("pattern 1235;lag 2;ship at 9 back speed 2;ship at 0 port;ship at 23 port");
+    TwinLights x = threeShips();
     Due.sheet(x, 0, 9);
     Due.is("kinds() by its cell now", x.kinds(0, 0), ALL_KINDS);
     for (int other : new int[] {8, 10}) {
@@ -266,7 +266,7 @@ final class SeenEdges {
         }
         tellsAtLast(x, 0, numbers, cell);
         Due.is("kinds() of one at " + cell + " behind " + (numbers - 1), x.kinds(0, 0), due);
-        x = Due.told("pattern 1235;lag 2;ship at 9 back speed 2;ship at 0 port;ship at 23 port");
+        x = threeShips();
       }
     }
     x.sheet(0, 8, 40);
@@ -274,6 +274,10 @@ final class SeenEdges {
     Due.is("kinds() of 40 times 0, elsewhere", x.kinds(0, 2), 0);
     tellsAtLast(x, 0, 40, 23);
     Due.is("kinds() of 23 at last, in port", x.kinds(0, 2), ALL_KINDS);
+  }
+
+  private static TwinLights threeShips() {
+    return Due.told("pattern 1235;lag 2;ship at 9 back speed 2;ship at 0 port;ship at 23 port");
   }
 
   private static void kindsByNumbers() {

@@ -238,8 +238,8 @@ final class SheetsEdges {
       }
     }
     Due.taken("sheet(3, .., 40)", SheetsEdges::some, (x, v) -> x.sheet(3, v, 40), 0, 8, 16, 32);
-    Due.beyond("sheet(3, .., 40)", SheetsEdges::some, (x, v) -> x.sheet(3, v, 40), -1, 1, 2, 4, 7, 9,
-        15, 17, 24, 31, 33, 64, -8, Due.LEAST_INT, Due.GREATEST_INT);
+    Due.beyond("sheet(3, .., 40)", SheetsEdges::some, (x, v) -> x.sheet(3, v, 40), -1, 1, 2, 4, 7,
+        9, 15, 17, 24, 31, 33, 64, -8, Due.LEAST_INT, Due.GREATEST_INT);
     // Told before the size is looked at.
     Due.beyond("sheet(.., 8, -1)", SheetsEdges::some, (x, v) -> x.sheet(v, 8, -1), -1, 4);
     Due.beyond("sheet(0, .., -1)", SheetsEdges::some, (x, v) -> x.sheet(0, v, -1), -1, 1, 24, 64);
@@ -269,7 +269,9 @@ final class SheetsEdges {
   private static void writes() {
     // What is left of a number: 5 by its lowest 8, 16 or 32 bits, or by none of these.
     int[] v = {5, 261, -251, 65541, -65531, 0x7fff0005, 0x7fffff05};
-    int[][] right = {{8, 1, 1, 1, 1, 1, 1, 1}, {16, 1, 0, 0, 1, 1, 1, 0}, {32, 1, 0, 0, 0, 0, 0, 0}};
+    int[][] right = {
+      {8, 1, 1, 1, 1, 1, 1, 1}, {16, 1, 0, 0, 1, 1, 1, 0}, {32, 1, 0, 0, 0, 0, 0, 0},
+    };
     for (int[] row : right) {
       for (int i = 0; i < v.length; i++) {
         TwinLights x = Due.told("ship at 5");
@@ -329,8 +331,9 @@ final class SheetsEdges {
   private static void copiesFromAndTo() {
     // Row: from, to, n; then what sheet 1 holds.
     int[][] rows = {
-      {0, 0, 4, 1, 2, 3, 4}, {4, 0, 4, 5, 6, 7, 8}, {0, 3, 1, 20, 20, 20, 1}, {7, 0, 1, 8, 20, 20, 20},
-      {7, 3, 1, 20, 20, 20, 8}, {2, 1, 2, 20, 3, 4, 20}, {0, 0, 0, 20, 20, 20, 20},
+      {0, 0, 4, 1, 2, 3, 4}, {4, 0, 4, 5, 6, 7, 8}, {0, 3, 1, 20, 20, 20, 1},
+      {7, 0, 1, 8, 20, 20, 20}, {7, 3, 1, 20, 20, 20, 8}, {2, 1, 2, 20, 3, 4, 20},
+      {0, 0, 0, 20, 20, 20, 20},
       {8, 4, 0, 20, 20, 20, 20}, {8, 0, 0, 20, 20, 20, 20}, {0, 4, 0, 20, 20, 20, 20},
     };
     for (int[] row : rows) {

@@ -16,7 +16,7 @@ public final class SheetsTest {
     Due.is("number " + i + " of sheet " + s, reads(x, s, i), due);
   }
 
-  /** The cell to which ship i must be put so that the reader, who came so far, stops there no more. */
+  /** The cell to which ship i must be put so that the reader stops there no more. */
   private static int reads(TwinLights x, int s, int i) {
     for (int cell = 0; cell <= 23; cell++) {
       x.change(i, 1, cell);

@@ -240,6 +240,7 @@ final class ShineEdges {
     }
     // In 20 ticks two strand twice and one six times: that one alone is fewer than those two.
     TwinLights y = Due.told("pattern 0;ship at 22;ship at 22;ship speed 5");
+    Due.is("keepIn(6, 20): one, though the two are a lesser number", y.keepIn(6, 20), 0b100);
     Due.is("keepIn(4, 20)", y.keepIn(4, 20), 0b100);
     Due.is("keepIn(3, 20)", y.keepIn(3, 20), 0b101);
   }

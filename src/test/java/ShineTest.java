@@ -71,7 +71,7 @@ public final class ShineTest {
     Due.is("patternFor(0)", x.patternFor(0), 0);
     Due.is("patternFor(1)", x.patternFor(1), 0b1000);
     Due.is("patternFor(8)", x.patternFor(8), 0b1000);
-    // Light on 3 is answered on 7 and turns it back at 5, to strand on 11, unless it sees both on 7.
+    // Light on 3 is answered on 7 and turns it back at 5, to strand on 11, unless it sees both.
     Due.is("patternFor(9)", x.patternFor(9), 0b10001000);
     Due.is("patternFor(12)", x.patternFor(12), 0b10001000);
     // A ship at 12 that sails to 23 in 11 ticks, unless THE SECOND or both are shown.

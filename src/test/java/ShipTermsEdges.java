@@ -1,4 +1,4 @@
-/** The edges that the terms name of ships: cells, values, what each kind sees and how far it goes. */
+/** The edges that the terms name of ships: cells, values, what each kind sees, how far it goes. */
 final class ShipTermsEdges {
   private static final int SHIP = 0;
   private static final int TUG = 1;
@@ -14,8 +14,10 @@ final class ShipTermsEdges {
     Words.of(Words.TERMS, "CELLS 0 to 23 (THE FIRST is at 0, THE SECOND at 23).",
         ShipTermsEdges::cells);
     Words.of(Words.TERMS, "SHIPS 0, 1, .. (at most 8),", ShipTermsEdges::eightShips);
-    Words.of(Words.TERMS, "of KINDS: 0 SHIP; 1 TUG, 2 LINER, 5 GHOST under SHIP; 3 YACHT under LINER;"
-        + " 4 RACER under YACHT; 6 PILOT under TUG;", ShipTermsEdges::kindsUnderKinds);
+    Words.of(Words.TERMS,
+        "of KINDS: 0 SHIP; 1 TUG, 2 LINER, 5 GHOST under SHIP; 3 YACHT under LINER; 4 RACER "
+            + "under YACHT; 6 PILOT under TUG;",
+        ShipTermsEdges::kindsUnderKinds);
     Words.of(Words.TERMS, "each AT a CELL,", ShipTermsEdges::atEachCell);
     Words.of(Words.TERMS, "with a WAY (1 to greater CELLS, 0 to lesser ones; 1 at first),",
         ShipTermsEdges::ways);

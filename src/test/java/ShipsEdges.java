@@ -19,10 +19,13 @@ final class ShipsEdges {
     Words.of(4, "A new SHIP AT a CELL: its number.", ShipsEdges::numbersOfShips);
     Words.of(4, "BEYOND.", ShipsEdges::shipBeyond);
     Words.of(4, "FULL.", ShipsEdges::shipFull);
-    Words.of(5, "Of a SHIP: what 0 KIND, 1 CELL, 2 WAY, 3 SPEED, 4 PORT, 5 STRANDED, 6 SAW, 7 GOES,",
+    Words.of(5,
+        "Of a SHIP: what 0 KIND, 1 CELL, 2 WAY, 3 SPEED, 4 PORT, 5 STRANDED, 6 SAW, 7 GOES,",
         ShipsEdges::ofTells);
-    Words.of(5, "8 which it would SEE on this TICK, as all is (0 neither, 1 THE FIRST, 2 THE SECOND,"
-        + " 3 both).", ShipsEdges::ofWouldSee);
+    Words.of(5,
+        "8 which it would SEE on this TICK, as all is (0 neither, 1 THE FIRST, 2 THE SECOND, "
+            + "3 both).",
+        ShipsEdges::ofWouldSee);
     Words.of(5, "BEYOND.", ShipsEdges::ofBeyond);
     Words.of(6, "KIND (what 0), CELL (1), WAY (2), SPEED (3), PORT (4), STRANDED (5), SAW (6) of a"
         + " SHIP becomes v: what it was.", ShipsEdges::changeTellsWhatItWas);

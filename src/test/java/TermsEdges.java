@@ -5,13 +5,17 @@ final class TermsEdges {
   private TermsEdges() {}
 
   static void all() {
-    Words.of(Words.TERMS, "FINDINGS are answers below -1000000: LOW is -1000001; LOW BEYOND, LOW - 1"
-        + " FULL, LOW - 2 KIND, LOW - 3 NONE, LOW - 4 STATE, LOW - 5 MISSING, LOW - 6 SIZE (in longs,"
-        + " too).", TermsEdges::findings);
+    Words.of(Words.TERMS,
+        "FINDINGS are answers below -1000000: LOW is -1000001; LOW BEYOND, LOW - 1 FULL, LOW "
+            + "- 2 KIND, LOW - 3 NONE, LOW - 4 STATE, LOW - 5 MISSING, LOW - 6 SIZE (in longs, "
+            + "too).",
+        TermsEdges::findings);
     Words.of(Words.TERMS, "What seed() and count(6) tell, z, may be any int: that is no finding.",
         TermsEdges::anyIntIsNoFinding);
-    Words.of(Words.TERMS, "Each act tells its findings in the order in which they are asked (that of"
-        + " its words);", TermsEdges::findingsInOrder);
+    Words.of(Words.TERMS,
+        "Each act tells its findings in the order in which they are asked (that of its "
+            + "words);",
+        TermsEdges::findingsInOrder);
     Words.of(Words.TERMS, "one that answers a finding changes nothing but status().",
         TermsEdges::refusedOneUponAnother);
     Words.without(Words.TERMS, "Quotients are cut.");
@@ -20,12 +24,13 @@ final class TermsEdges {
         + " told.", TermsEdges::theLeastCounts);
     Words.of(Words.TERMS, "1. THE PATTERN: twelve bits (0 to 4095; 5 at first);",
         TermsEdges::patternOfTwelveBits);
-    Words.of(Words.TERMS, "THE FIRST light shows on a TICK bit TICK modulo 12 of it (1:"
-        + " light).",
+    Words.of(Words.TERMS,
+        "THE FIRST light shows on a TICK bit TICK modulo 12 of it (1: light).",
         TermsEdges::patternWrapsRound);
     Words.of(Words.TERMS, "THE PAST: twenty-four bits (0 to 16777215; 0 at first):",
         TermsEdges::pastOfTwentyFourBits);
-    Words.of(Words.TERMS, "what THE FIRST showed, bit 0 the latest, each greater one a TICK before.",
+    Words.of(Words.TERMS,
+        "what THE FIRST showed, bit 0 the latest, each greater one a TICK before.",
         TermsEdges::pastBitByBit);
     Words.of(Words.TERMS, "LAG (0 to 23; 4 at first).", TermsEdges::lagFrom0To23);
     Words.of(Words.TERMS, "THE BOOK: open or not (1 or 0; 1 at first).", TermsEdges::bookIs1Or0);
@@ -125,8 +130,8 @@ final class TermsEdges {
   }
 
   private static void setsAsBits() {
-    TwinLights x = Due.told("ship at 0;ship at 23;ship at 0;ship at 5 port;ship at 5;ship at 9 port;"
-        + "ship at 9;ship at 0");
+    TwinLights x = Due.told("ship at 0;ship at 23;ship at 0;ship at 5 port;ship at 5;"
+        + "ship at 9 port;ship at 9;ship at 0");
     Due.is("SHIPS 0, 2 and 7", x.who(0), 0b10000101);
     Due.is("SHIPS 3 and 5", x.now(3), 0b00101000);
     Due.is("CELLS 0, 5, 9 and 23", x.now(4), 0b100000000000001000100001);

@@ -33,8 +33,10 @@ final class TextTermsEdges {
   }
 
   private static void faults() {
-    Words.of(Words.TERMS, "FAULT: the place (from 0) of the first byte of the first TOKEN that can't"
-        + " stand there", TextTermsEdges::firstThatCantStand);
+    Words.of(Words.TERMS,
+        "FAULT: the place (from 0) of the first byte of the first TOKEN that can't stand "
+            + "there",
+        TextTermsEdges::firstThatCantStand);
     Words.of(Words.TERMS, "(a NUMBER that isn't as told,", TextTermsEdges::numbersNotAsTold);
     Words.of(Words.TERMS, "another WORD,", TextTermsEdges::otherWords);
     Words.of(Words.TERMS, "a byte that begins no TOKEN,", TextTermsEdges::bytesOfNoToken);

@@ -3,7 +3,9 @@ final class TextsEdges {
   private TextsEdges() {}
 
   static void all() {
-    Words.of(29, "THE TAPE gets the n lowest bytes of a number behind it,", TextsEdges::lowestBytes);
+    Words.of(29,
+        "THE TAPE gets the n lowest bytes of a number behind it,",
+        TextsEdges::lowestBytes);
     Words.of(29, "the highest of these first", TextsEdges::highestFirst);
     Words.of(29, "(n 1 to 4):", TextsEdges::from1To4);
     Words.of(29, "how many it has.", TextsEdges::howManyItHas);

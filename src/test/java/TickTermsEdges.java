@@ -5,21 +5,25 @@ final class TickTermsEdges {
   private TickTermsEdges() {}
 
   static void all() {
-    Words.of(Words.TERMS, "2. A TICK goes by: (1) THE FIRST shows its bit; THE PAST is twice what it"
-        + " was and that bit (bits above 23 are lost).", TickTermsEdges::pastGoesOn);
+    Words.of(Words.TERMS,
+        "2. A TICK goes by: (1) THE FIRST shows its bit; THE PAST is twice what it was and "
+            + "that bit (bits above 23 are lost).",
+        TickTermsEdges::pastGoesOn);
     Words.of(Words.TERMS, "(2) SHIPS that aren't in PORT by numbers:",
         TickTermsEdges::noneInPort);
     Words.of(Words.TERMS, "if one SEES THE FIRST alone, its WAY is 1; THE SECOND alone, 0; both or"
         + " neither: as it is;", TickTermsEdges::waysByLights);
     Words.of(Words.TERMS, "SAW is more by how many it SEES (9999 at most);",
         TickTermsEdges::sawAtItsMost);
-    Words.of(Words.TERMS, "then it goes as many CELLS as it GOES on its WAY, but no farther than to 0"
-        + " or 23,", TickTermsEdges::noFartherThanTheEnds);
+    Words.of(Words.TERMS,
+        "then it goes as many CELLS as it GOES on its WAY, but no farther than to 0 or 23,",
+        TickTermsEdges::noFartherThanTheEnds);
     Words.of(Words.TERMS, "unless it SEES both (then it stays);", TickTermsEdges::staysSeeingBoth);
     Words.of(Words.TERMS, "if it doesn't SEE both, GOES above 0 and is AT 0 or 23 then:",
         TickTermsEdges::strandsWhen);
-    Words.of(Words.TERMS, "STRANDED is 1 more (9999 at most), it is AT CELL 11, its WAY is the other"
-        + " one.", TickTermsEdges::strandedAtItsMost);
+    Words.of(Words.TERMS,
+        "STRANDED is 1 more (9999 at most), it is AT CELL 11, its WAY is the other one.",
+        TickTermsEdges::strandedAtItsMost);
     Words.of(Words.TERMS, "TICK is one more (99999 at most).", TickTermsEdges::tickIsOneMore);
     Words.of(Words.TERMS, "DRAWS: z is told (1 at first);", TickTermsEdges::firstZ);
     Words.of(Words.TERMS, "each makes it z * 1103515245 + 12345 (an int),",

@@ -97,7 +97,7 @@ final class TicksEdges {
 
   private static void nowNearest() {
     Due.is("now(5) of none", new TwinLights().now(5), -1);
-    TwinLights x = Due.told("ship at 0 port;ship at 23;ship at 7;ship at 6;ship at 6;ship at 0 port");
+    TwinLights x = Due.told("ship at0port;ship at23;ship at7;ship at6;ship at6;ship at0port");
     Due.is("now(5)", x.now(5), 3);
     x.change(3, 4, 1);
     Due.is("now(5), one of two in port", x.now(5), 4);
