@@ -7,6 +7,7 @@ public final class AheadTest {
     strandsByHand();
     whenByHand();
     meetByHand();
+    fromAnOddTick();
     periods();
     Due.end();
   }
@@ -144,6 +145,30 @@ public final class AheadTest {
     Due.is("meet(0, 1), 201 from here", z.meet(0, 1), Due.NONE);
     z.go(1);
     Due.is("meet(0, 1), 200 from here", z.meet(0, 1), 200);
+  }
+
+  /** A YACHT without SPEED goes a cell on each even tick; what was kept or told before is past. */
+  private static void fromAnOddTick() {
+    TwinLights x = Due.told("pattern 0;yacht at 9 speed 0;ship at 12 port");
+    x.image();
+    x.go(1);
+    Due.is("of(0, 1)", x.of(0, 1), 10);
+    Due.is("ahead(0, 1, 1)", x.ahead(0, 1, 1), 10);
+    Due.is("ahead(0, 1, 2)", x.ahead(0, 1, 2), 11);
+    Due.is("when(0, 11)", x.when(0, 11), 2);
+    Due.is("meet(0, 1)", x.meet(0, 1), 4);
+    // 13 cells to 23, on ticks 2, 4, .. 26.
+    Due.is("strands(0)", x.strands(0), 26);
+    Due.sheet(x, 0, 10, 10, 11, 11, 12);
+    Due.is("kinds(0, 0)", x.kinds(0, 0), 1 << 3);
+    x.change(0, 1, 22);
+    Due.is("keepIn(0, 1)", x.keepIn(0, 1), 0);
+    Due.is("keepIn(0, 2)", x.keepIn(0, 2), 1);
+    Due.is("kindFor(0, 1)", x.kindFor(0, 1), 0);
+    Due.is("speedFor(0, 1)", x.speedFor(0, 1), 0);
+    Due.is("speedFor(0, 2)", x.speedFor(0, 2), Due.NONE);
+    x.undo();
+    Due.is("when(0, 11) from tick 0", x.when(0, 11), 3);
   }
 
   private static void periods() {

@@ -22,6 +22,7 @@ public final class LanguageTest {
     wordsThatAreLeftOut();
     theLibrary();
     methodsStayShort();
+    whatTheTreeTells();
     Due.end();
   }
 
@@ -145,5 +146,19 @@ public final class LanguageTest {
       }
       Due.is("the length of line " + line, text.length() <= 100 ? 1 : 0, 1);
     }
+  }
+
+  /** Rules 8, 11 and 12, and what README.md says of the objects that a call makes. */
+  private static void whatTheTreeTells() throws Exception {
+    SourceTree tree = SourceTree.of(SOURCE);
+    Due.is("methods of the face in the tree", tree.open.size(), 42);
+    for (String name : tree.open) {
+      Due.is(name + " goes at most eight deep", tree.depthFrom(name) <= 8 ? 1 : 0, 1);
+    }
+    // These two carry their depth, which ends at twelve ticks.
+    Due.same("methods that call one another", tree.circles.toString(),
+        "[PatternSearch.tryBit(int,int), PatternSearch.tryFrom(int,int)]");
+    Due.same("objects that calls make", tree.made.toString(), "[]");
+    Due.same("casts among objects", tree.casts.toString(), "[]");
   }
 }

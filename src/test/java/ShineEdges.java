@@ -55,20 +55,35 @@ final class ShineEdges {
     return x;
   }
 
-  private static void lagOfAll() {
-    // THE FIRST is dark; bit 5 turns the ships at 22 back on this tick with LAG 6, bit 22 with 23.
-    for (int atTheirMost = 0; atTheirMost <= 8; atTheirMost++) {
-      TwinLights x = fullSea(atTheirMost);
-      x.set(0, 0);
-      x.set(3, 1 << 5 | 1 << 22);
-      Due.is("lagFor(1), " + atTheirMost + " at their most", x.lagFor(1),
-          atTheirMost == 8 ? 0 : 6);
-      x.set(3, 1 << 22);
-      Due.is("lagFor(1), the greatest LAG", x.lagFor(1), atTheirMost == 8 ? 0 : 23);
-      x.set(0, 4095);
-      x.set(3, 0);
-      Due.is("lagFor(1), the least LAG", x.lagFor(1), 0);
+  /** The others are one short of it: with seven at their most all together may become 79992. */
+  private static TwinLights almostFullSea(int atTheirMost) {
+    TwinLights x = fullSea(atTheirMost);
+    for (int ship = atTheirMost; ship < 8; ship++) {
+      x.change(ship, 5, MOST - 1);
     }
+    return x;
+  }
+
+  private static void lagOfAll() {
+    for (int atTheirMost = 0; atTheirMost <= 8; atTheirMost++) {
+      lagOf(fullSea(atTheirMost), atTheirMost);
+      lagOf(almostFullSea(atTheirMost), atTheirMost);
+    }
+  }
+
+  private static void lagOf(TwinLights x, int atTheirMost) {
+    // THE FIRST is dark; bit 5 turns the ships at 22 back on this tick with LAG 6, bit 22 with 23.
+    x.set(0, 0);
+    x.set(3, 1 << 5 | 1 << 22);
+    Due.is("lagFor(1), " + atTheirMost + " at their most", x.lagFor(1),
+        atTheirMost == 8 ? 0 : 6);
+    x.set(3, 1 << 22);
+    Due.is("lagFor(1), the greatest LAG", x.lagFor(1), atTheirMost == 8 ? 0 : 23);
+    x.set(3, 1 << 23);
+    Due.is("lagFor(1), a bit that no LAG shows", x.lagFor(1), 0);
+    x.set(0, 4095);
+    x.set(3, 0);
+    Due.is("lagFor(1), the least LAG", x.lagFor(1), 0);
   }
 
   private static void lagFrom0To60() {
@@ -100,14 +115,9 @@ final class ShineEdges {
   }
 
   private static void patternFrom0To4095() {
-    // With the book closed a ship at 22 stays there as long as there is light.
     for (int atTheirMost = 0; atTheirMost <= 8; atTheirMost++) {
-      TwinLights x = fullSea(atTheirMost);
-      x.set(2, 0);
-      Due.is("patternFor(12), all twelve", x.patternFor(12), atTheirMost == 8 ? 0 : 4095);
-      Due.is("patternFor(11), all but the last", x.patternFor(11), atTheirMost == 8 ? 0 : 2047);
-      Due.is("patternFor(1), the first alone", x.patternFor(1), atTheirMost == 8 ? 0 : 1);
-      Due.is("patternFor(0), none", x.patternFor(0), 0);
+      patternOf(fullSea(atTheirMost), atTheirMost);
+      patternOf(almostFullSea(atTheirMost), atTheirMost);
     }
     // A GHOST there stays as long as it is dark.
     TwinLights dark = Due.told("book 0;pattern 4095;ghost at 22");
@@ -121,6 +131,15 @@ final class ShineEdges {
     Due.is("patternFor(1) on tick 11", y.patternFor(1), 2048);
     Due.is("patternFor(2) on tick 11", y.patternFor(2), 2049);
     Due.is("patternFor(12) on tick 11", y.patternFor(12), 4095);
+  }
+
+  private static void patternOf(TwinLights x, int atTheirMost) {
+    // With the book closed a ship at 22 stays there as long as there is light.
+    x.set(2, 0);
+    Due.is("patternFor(12), all twelve", x.patternFor(12), atTheirMost == 8 ? 0 : 4095);
+    Due.is("patternFor(11), all but the last", x.patternFor(11), atTheirMost == 8 ? 0 : 2047);
+    Due.is("patternFor(1), the first alone", x.patternFor(1), atTheirMost == 8 ? 0 : 1);
+    Due.is("patternFor(0), none", x.patternFor(0), 0);
   }
 
   private static void patternFrom0To12() {
@@ -137,6 +156,8 @@ final class ShineEdges {
     // In the dark a SHIP strands here; a TUG, too; a GHOST sees both and stays.
     Due.is("kindFor(7, 1)", x.kindFor(7, 1), 5);
     Due.is("kindFor(0, 1) at its most", x.kindFor(0, 1), 0);
+    x.change(7, 5, MOST - 1);
+    Due.is("kindFor(7, 1) short of it", x.kindFor(7, 1), 5);
     // The last kind alone: each other one strands oftener in these 16 ticks.
     TwinLights z = Due.told("pattern 10;ship at 7 speed 4");
     Due.is("kindFor(0, 0)", z.kindFor(0, 0), 0);
@@ -182,6 +203,8 @@ final class ShineEdges {
     TwinLights y = Due.told("pattern 0;ship back");
     Due.is("start(0, 22), the greatest CELL", y.start(0, 22), 23);
     Due.is("start(0, 21)", y.start(0, 21), 22);
+    // No CELL does without stranding; 12 is the least that strands once.
+    Due.is("start(0, 23)", y.start(0, 23), 12);
     y.change(0, 5, MOST);
     Due.is("start(0, 22) at its most", y.start(0, 22), 0);
     y.change(0, 5, MOST - 1);
@@ -238,6 +261,11 @@ final class ShineEdges {
     for (int v = 0; v < due.length; v++) {
       Due.is("keepIn(" + v + ", 1)", x.keepIn(v, 1), due[v]);
     }
+    // Both lights keep them where they are.
+    x.set(0, 1);
+    x.set(2, 0);
+    Due.is("keepIn(0, 1) of ships that see both", x.keepIn(0, 1), 0);
+    Due.is("keepIn(0, 2), dark behind it", x.keepIn(0, 2), 255);
     // In 20 ticks two strand twice and one six times: that one alone is fewer than those two.
     TwinLights y = Due.told("pattern 0;ship at 22;ship at 22;ship speed 5");
     Due.is("keepIn(6, 20): one, though the two are a lesser number", y.keepIn(6, 20), 0b100);
